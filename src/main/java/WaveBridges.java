@@ -908,10 +908,10 @@ public final class WaveBridges {
             ports[end].clear(wiring.toldEdge[end]);
         }
 
+        // Both ends of a link go down together: so goes the mail of both ways.
         private void goDown(int end) {
             ports[end].clear(false);
             dropMail(end);
-            dropMail(end ^ 1);
             forgetAt(end);
         }
 

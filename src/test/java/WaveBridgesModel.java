@@ -1,3 +1,6 @@
+import java.lang.reflect.InvocationTargetException;
+import java.lang.reflect.Method;
+import java.lang.reflect.Modifier;
 import java.util.ArrayList;
 import java.util.Arrays;
 import java.util.List;
@@ -1015,11 +1018,49 @@ public final class WaveBridgesModel {
         }
     }
 
-    public static void main(String[] args) {
-        int runs = args.length > 0 ? Integer.parseInt(args[0]) : 150;
+    /** Any calls with any arguments, 512 on one object: nothing may be thrown. */
+    static void anything(long seed, List<Method> calls) throws IllegalAccessException {
+        Random r = new Random(seed);
+        WaveBridges x = new WaveBridges();
+        for (int k = 0; k < 512; k++) {
+            if (r.nextInt(60) == 0 || k == 20) {
+                x.end(0);
+                String t = text(r);
+                feed(x, bytes(r.nextInt(3) == 0 ? spoilt(t, r) : t));
+                x.net();
+            }
+            Method call = calls.get(r.nextInt(calls.size()));
+            Object[] given = new Object[call.getParameterCount()];
+            for (int j = 0; j < given.length; j++) {
+                int kind = r.nextInt(10);
+                given[j] = kind < 7 ? r.nextInt(16) - 2 : kind < 8 ? r.nextInt(210) : kind < 9 ? r.nextInt() : r.nextInt(2) - 1 ^ Integer.MIN_VALUE;
+            }
+            asked++;
+            try {
+                call.invoke(x, given);
+            } catch (InvocationTargetException e) {
+                wrong++;
+                System.out.println("seed " + seed + " call " + k + ": " + call.getName() + Arrays.toString(given) + " threw " + e.getCause());
+                return;
+            }
+        }
+    }
+
+    static List<Method> face() {
+        List<Method> calls = new ArrayList<>();
+        for (Method m : WaveBridges.class.getDeclaredMethods()) if (Modifier.isPublic(m.getModifiers())) calls.add(m);
+        calls.sort((a, b) -> a.getName().compareTo(b.getName()));
+        due(0, 0, "how many public methods", calls.size(), 44);
+        return calls;
+    }
+
+    public static void main(String[] args) throws IllegalAccessException {
+        int runs = args.length > 0 ? Integer.parseInt(args[0]) : 250;
         long first = args.length > 1 ? Long.parseLong(args[1]) : 1;
         for (long seed = first; seed < first + 20L * runs; seed++) readOnce(seed);
         for (long seed = first; seed < first + runs; seed++) runOnce(seed, 60);
+        List<Method> calls = face();
+        for (long seed = first; seed < first + runs; seed++) anything(seed, calls);
         System.out.println(asked + " answers compared");
         System.out.println(wrong == 0 ? "all answers are as due" : wrong + " answers are not as due");
         if (wrong != 0) System.exit(1);

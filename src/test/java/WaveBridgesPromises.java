@@ -136,6 +136,12 @@ public final class WaveBridgesPromises {
         row("has(", x::has, 0, 0, 0, 0, 0, 0, 0, 0, 0, 0, 0, 0, 77);
         due("when()", x.when(), 0);
         due("run(1)", x.run(1), 1);
+        // Nothing of an earlier net stays in a later one: neither edges nor names nor ports.
+        for (String text : new String[] {EDGES, EDGES, TRIANGLE, PAIR, TRIANGLE}) {
+            put(x, text);
+            x.net();
+            due("as on a new object", told(x).equals(told(of(text))), true);
+        }
         // A net smaller than the one before keeps nothing of it.
         WaveBridges y = of(TRIANGLE, 30);
         put(y, "net age 6 delay 2;bridge z prio 4;host y at z;");
@@ -285,6 +291,8 @@ public final class WaveBridgesPromises {
         due("flushed", y.has(8) > 0, true);
         due("b lost f", y.address(1, 2, 0), NONE);
         due("b has its own g", y.address(1, 1, 0), 6);
+        y.undo();
+        due("what is undone was not flushed", y.has(8), 0);
     }
 
     private static void letter() {
@@ -560,6 +568,15 @@ public final class WaveBridgesPromises {
         due("rests() anew", x.rests(), false);
         due("rests() of edges that are open on both sides", of(EDGES).rests(), false);
         due("rests() of one that is too far", of(CHAIN, 200).rests(), false);
+        // Without link 1 all roles and states are as due at once; but d has not heard yet that its way costs 1 more.
+        WaveBridges t = of("net age 6 delay 2;bridge a prio 1;bridge b prio 2;bridge c prio 3;bridge d prio 4;link a to b cost 1 takes 1;"
+                + "link a to c cost 1 takes 1;link b to c cost 1 takes 1;link c to d cost 1 takes 1;", 41);
+        due("rests()", t.rests(), true);
+        t.cut(1);
+        due("rests() with an old COST", t.rests(), false);
+        due("when()", t.when(), 2);
+        t.run(2);
+        due("rests()", t.rests(), true);
     }
 
     private static void when() {
@@ -752,6 +769,13 @@ public final class WaveBridgesPromises {
         x.see(0);
         row("those WHOLE, and none ", k -> x.suspect(k - 1), 3, 0, 2, 3, NONE);
         due("none is cut by it", x.has(6), 2);
+        // Nothing SEEN any more: behind 0 STEPS, where b and c have not told one another anything.
+        put(x, 2, 1, 1);
+        x.see(80);
+        put(x, TRIANGLE);
+        x.net();
+        row("suspect by nothing ", k -> x.suspect(k - 1), 4, 0, 1, 2, 3, NONE);
+        row("tells(", x::tells, 0, 0, 3);
     }
 
     private static void tells() {
