@@ -995,6 +995,47 @@ public final class WaveBridgesModel {
         for (int k = 0; k < 3; k++) due(seed, turn, "tells(" + k + ")", x.tells(k), telling[k]);
     }
 
+    /** Nets in which what was heard goes around for long: what random nets hardly ever do. */
+    static final String[] LONG = {
+        "bridge a prio 11;bridge b prio 15;bridge c prio 15 old;link b to c cost 5 takes 3;link c to a cost 5 takes 3;"
+            + "link c to b cost 3 takes 2;link b to c cost 4 takes 1;",
+        "bridge a prio 7;bridge b prio 8 old;bridge c prio 11;link c to b cost 4 takes 3;link c to b cost 5 takes 2;"
+            + "link a to b cost 1 takes 2;link c to b cost 2 takes 1;",
+        "bridge a prio 5;bridge b prio 15 old;bridge c prio 5;link b to c cost 1 takes 1;link b to c cost 5 takes 3;"
+            + "link b to c cost 3 takes 2;link a to b cost 1 takes 1;",
+        "bridge a prio 13;bridge b prio 11;bridge c prio 11;bridge d prio 13 old;bridge e prio 6 old;link a to c cost 3 takes 1;"
+            + "link a to b cost 5 takes 3;link c to d cost 5 takes 3;link c to d cost 4 takes 2;link c to e cost 4 takes 2;"
+            + "link d to a cost 3 takes 1;link c to a cost 2 takes 3;"};
+
+    static void goAround(int which) {
+        String t = "net age 20 delay 9;" + LONG[which];
+        WaveBridges x = new WaveBridges();
+        feed(x, bytes(t));
+        NetTold told = new Text(t).read();
+        due(-which, 0, "net()", x.net(), told.statements);
+        World w = World.of(told);
+        Random r = new Random(which);
+        for (int turn = 1; turn <= 12; turn++) {
+            x.run(1);
+            w.oneStep();
+            ahead(-which, turn, x, w, new ArrayList<>(), 0, r);
+        }
+        for (int l = 0; l < w.whole.size(); l++) {
+            World cut = w.copy();
+            cut.cut(l);
+            WaveBridges y = new WaveBridges();
+            feed(y, bytes(t));
+            y.net();
+            y.run(12);
+            y.cut(l);
+            for (int turn = 0; turn < 60; turn++) {
+                for (int k = 0; k < 5; k++) cut.oneStep();
+                y.run(5);
+                compare(-which, turn, y, cut, Math.min(20, 3 + turn), 0);
+            }
+        }
+    }
+
     static void readOnce(long seed) {
         Random r = new Random(seed);
         String good = text(r);
@@ -1059,6 +1100,7 @@ public final class WaveBridgesModel {
         long first = args.length > 1 ? Long.parseLong(args[1]) : 1;
         for (long seed = first; seed < first + 20L * runs; seed++) readOnce(seed);
         for (long seed = first; seed < first + runs; seed++) runOnce(seed, 60);
+        for (int which = 0; which < LONG.length; which++) goAround(which);
         List<Method> calls = face();
         for (long seed = first; seed < first + runs; seed++) anything(seed, calls);
         System.out.println(asked + " answers compared");
