@@ -228,6 +228,7 @@ public final class WaveBridgesLimits {
         for (int k = 0; k < 29; k++) y.run(8);
         y.send(0, 1);
         due("heard anew", y.address(1, 0, 1), 0);
+        due("heard anew at the host place", y.address(0, 0, 1), 0);
         y.run(8);
         due("address(1, 0, 1)", y.address(1, 0, 1), 1);
         x.run(7);

@@ -245,6 +245,13 @@ public final class WaveBridgesTexts {
         faulty(NET + "bridge a prio 1 2;", 1, NET.length() + 16);
         faulty(ONE + "host h at a a;", 1, ONE.length() + 12);
         faulty(ONE + "host h at a edge;", 1, ONE.length() + 12);
+        // Nothing may be left out.
+        String[] parts = {"net;", "net age;", "net age 6;", "net age 6 delay;", "bridge;", "bridge b;", "bridge b prio;", "link;", "link a;",
+            "link a to;", "link a to a;", "link a to a cost;", "link a to a cost 1;", "link a to a cost 1 takes;", "host;", "host h;", "host h at;"};
+        for (String part : parts) {
+            String ahead = part.startsWith("net") ? "" : ONE;
+            faulty(ahead + part, 1, ahead.length() + part.length() - 1);
+        }
     }
 
     private static void tooMany() {
@@ -399,6 +406,41 @@ public final class WaveBridgesTexts {
         fine(t.toString(), 4);
     }
 
+    /** What lies on the tape behind its end belongs to no text: FAULT 1 at the text's length, if it ends too soon. */
+    private static void behindTheEnd() {
+        promise = 5;
+        endsAt(NET, 17, 17);
+        endsAt(NET, 16, 16);
+        endsAt("net age 20 delay 2;", 9, 9);
+        endsAt(ONE + "link a to a cost 2000 takes 1;", 54, 54);
+        endsAt(NET + "bridgex prio 1;", 24, 24);
+        endsAt(NET + "bridge abcdefgh prio 1;", 31, 31);
+        endsAt(NET + "bridge a prio 15 old;", 33, 33);
+        endsAt(NET + "bridge a prio 15 old;", 34, 34);
+        endsAt(NET + "bridge a prio 1 old;", 37, 37);
+        endsAt(NET + "bridge a prio 1 old;", 36, 34);
+        endsAt(ONE + "host ata at a;", 41, 39);
+        endsAt(ONE + "host h at a;", 45, 45);
+        promise = 3;
+        WaveBridges x = new WaveBridges();
+        put(x, NET + "bridge a prio 1;bridge a prio 1;");
+        due("end(34)", x.end(34), true);
+        due("net() of the first two", x.net(), 2);
+        put(x, NET + "bridge aa prio 15 ;");
+        due("end(35)", x.end(35), true);
+        due("net() without ';'", x.net(), NONE);
+        due("fault(1)", x.fault(1), 35);
+        due("a net stays", x.bridge(0, 0), 16);
+    }
+    private static void endsAt(String text, int length, int place) {
+        WaveBridges x = new WaveBridges();
+        put(x, text);
+        due("end(" + length + ") of " + shown(text), x.end(length), true);
+        due("net() of " + length + " of " + shown(text), x.net(), NONE);
+        due("fault(0) of " + length + " of " + shown(text), x.fault(0), 1);
+        due("fault(1) of " + length + " of " + shown(text), x.fault(1), place);
+    }
+
     /** Of several faults the first along the text is told. */
     private static void first() {
         promise = 5;
@@ -475,6 +517,7 @@ public final class WaveBridgesTexts {
         names();
         blanks();
         tooShort();
+        behindTheEnd();
         first();
         fault();
         numbers();
