@@ -1367,7 +1367,9 @@ public final class WaveBridges {
         void turnOff(int b) {
             for (int p = 0; p < wiring.ports[b]; p++) {
                 int end = wiring.endOf(b, p);
-                touched[wiring.farBridge(end)] |= isUp(end);
+                if (isUp(end)) {
+                    touched[wiring.farBridge(end)] = true;
+                }
                 goDown(end);
                 goDown(end ^ 1);
             }
