@@ -423,7 +423,7 @@ public final class WaveBridges {
         private static final int OWN_WORDS = 13;
 
         final int[] letters = new int[LETTERS];
-        int[] bytes;
+        final int[] bytes;
         int length;
         int at;
         int touching;
@@ -433,8 +433,9 @@ public final class WaveBridges {
         int place;
         Wiring wiring;
 
-        Reader(int[] bytes) {
+        Reader(int[] bytes, Wiring into) {
             this.bytes = bytes;
+            wiring = into;
             place = NONE;
         }
 
@@ -1824,7 +1825,7 @@ public final class WaveBridges {
     }
 
     private final int[] tape = new int[TAPE_BYTES];
-    private final Reader reader = new Reader(tape);
+    private final Reader reader;
     private final State ahead;
     private final State now;
     private final State[] past = new State[ACTS];
@@ -1843,6 +1844,7 @@ public final class WaveBridges {
     private int drawn;
 
     public WaveBridges() {
+        reader = new Reader(tape, spare);
         now = new State(wiring);
         ahead = new State(wiring);
         drawn = 1;
